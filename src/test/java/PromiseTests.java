@@ -435,6 +435,11 @@ public final class PromiseTests {
         is("- between is not open", tell(x, "9-(1-(1-(1-(1-(1-(1-1))))))"), 1);
         is("what runs on: 9 - 1", x.comes(14, 2, 1), 8);
         is("within 6 others", tell(x, "((((((-1))))))"), -106);
+        is("6 of ( behind ?", tell(x, "1?((((((7))))));((((((a))))))?((((((a))))))"), 1);
+        is("what runs on", x.comes(14, 2, 1), 7);
+        is("7 of ( behind ?", tell(x, "1?(((((((7)))))))"), -108);
+        is("| behind ?", tell(x, "m?0|m;1"), 1);
+        is("what runs on", x.comes(14, 2, 1), 1);
     }
 
     private void comes() {
@@ -615,6 +620,10 @@ public final class PromiseTests {
         x.mend(4, 4, 0);
         is("as WET as may be of MARK 0", x.from(1, 0), 0b10000);
         is("so he reaches him not", x.from(0, 1), 0b10100);
+        x.mend(0, 2, 1);
+        x.mend(10, 3, 9998);
+        is("1 is enough", x.from(1, 0), 0b10001);
+        x.mend(10, 3, 9999);
         tell(x, "n>1?a;0");
         is("alone nobody runs on", x.from(0, 1), 0);
         is("no such one", x.from(5, 0), BAD);
@@ -653,6 +662,25 @@ public final class PromiseTests {
         is("of his STACK", x.dry(1, 0), 0);
         x.moves(0, 15);
         is("FLOORS of stack 1", x.dry(1, 1), 0b1000);
+        ThoughtsDrip y = two();
+        y.moves(1, 0);
+        y.person(7, ALWAYS);
+        tell(y, "a-(w=9)");
+        y.mend(20, 2, 5);
+        is("14: his own and five", y.dry(1, 1), 0b00111111);
+        y.mend(20, 2, 6);
+        is("15: seven", y.dry(1, 0), 7);
+        is("which seven", y.dry(1, 1), 0b01111111);
+        y.mend(20, 2, 7);
+        is("16: all", y.dry(1, 0), 8);
+        is("all", y.dry(1, 1), 0b11111111);
+        y.mend(20, 2, 8);
+        is("17: not even all", y.dry(1, 0), NOT);
+        is("17: not even all", y.dry(1, 1), NOT);
+        y.mend(20, 2, 0);
+        y.mend(0, 2, 0);
+        y.mend(3, 2, 9);
+        is("MARK 3 alone", y.dry(1, 1), 1);
         is("no such one", x.dry(3, 0), BAD);
         is("one -1", x.dry(-1, 0), BAD);
         is("what 2", x.dry(0, 2), BAD);
@@ -1029,6 +1057,20 @@ public final class PromiseTests {
         is("HOUR 1", x.hour(), 1);
         is("9999 at most", x.of(10, 3), 9999);
         is("three hours", x.led(0), 3);
+        ThoughtsDrip y = new ThoughtsDrip();
+        for (int p = 0; p < 6; p++) {
+            y.person(16 + p, ALWAYS);
+            for (int mark = 0; mark < 4; mark++) {
+                y.mend(10 * p + mark, 2, p + mark);
+            }
+        }
+        y.hour();
+        is("the lowest: 1 .. 5", y.of(0, 3), 15);
+        is("the lowest of MARK 3: 4 .. 8", y.of(3, 3), 30);
+        is("the next: 2 .. 5", y.of(10, 3), 14);
+        is("the last but one", y.of(43, 3), 8);
+        is("the top", y.of(50, 3) + y.of(53, 3), 0);
+        is("all: 15, 21, 27, 33", y.led(3), 96);
     }
 
     private void moves() {
@@ -1128,8 +1170,10 @@ public final class PromiseTests {
         is("IRON stays", x.of(0, 5), 6);
         is("who came since", x.of(2, 0) * 100 + x.of(21, 3), 2040);
         is("changes stay", x.count(3), 7);
+        x.mend(13, 3, 80);
         x.hour();
         is("again", x.back(), 1);
+        is("WET of all MARKS", x.of(13, 3), 0);
         is("HOUR", x.of(0, 6), 1);
         x.mend(0, 6, 7);
         x.hour();
@@ -1203,6 +1247,26 @@ public final class PromiseTests {
             is("redo", y.redo(), k);
         }
         is("as they were", y.of(17, 4) * 10 + y.of(18, 4), 21);
+        ThoughtsDrip z = new ThoughtsDrip();
+        z.person(1, 1);
+        for (int k = 0; k < 21; k++) {
+            z.mend(0, k % 2, k + 2);
+            z.mend(0, 5 + k % 2, k / 2 % 7 + 1);
+        }
+        int[] was = {z.of(0, 0), z.of(0, 1), z.of(0, 5), z.of(0, 6)};
+        for (int k = 39; k >= 0; k--) {
+            is("undo", z.undo(), k);
+        }
+        is("no more", z.undo(), STATE);
+        is("the two oldest stand", z.of(0, 0) * 100 + z.of(0, 1) * 10 + z.of(0, 5), 211);
+        is("HOUR as at first", z.of(0, 6), 0);
+        for (int k = 39; k >= 0; k--) {
+            is("redo", z.redo(), k);
+        }
+        is("FLAT as it was", z.of(0, 0), was[0]);
+        is("OUT as it was", z.of(0, 1), was[1]);
+        is("IRON as it was", z.of(0, 5), was[2]);
+        is("HOUR as it was", z.of(0, 6), was[3]);
     }
 
     private void body() {

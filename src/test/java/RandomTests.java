@@ -35,11 +35,30 @@ public final class RandomTests {
     }
 
     private void run() {
+        if (random.nextInt(4) > 0) {
+            settle();
+        }
         while (left > 0 && sound) {
             step(random.nextInt(60));
         }
         if (!sound) {
             System.out.println(String.join("\n", calls));
+        }
+    }
+
+    /** People who think, most of them in one stack, so that something drips from the start. */
+    private void settle() {
+        int many = 2 + random.nextInt(5);
+        int stack = random.nextInt(3);
+        for (int p = 0; p < many; p++) {
+            int flat = random.nextInt(5) == 0 ? random.nextInt(24) : 8 * stack + random.nextInt(8);
+            int out = random.nextInt(4096) | random.nextInt(4096);
+            same("person(" + flat + ", " + out + ")", real.person(flat, out), plain.person(flat, out));
+            for (int k = 0; k < 2; k++) {
+                int pm = 10 * p + random.nextInt(4);
+                int v = random.nextInt(10);
+                same("mend(" + pm + ", 2, " + v + ")", real.mend(pm, 2, v), plain.mend(pm, 2, v));
+            }
         }
     }
 
@@ -94,7 +113,7 @@ public final class RandomTests {
             case 13: case 14: case 15: case 16: case 17: case 18: case 19: case 20: hours(random.nextInt(9)); break;
             case 21: case 22: case 23: basin(); break;
             case 24: case 25: case 26: case 27: case 28: case 29: guesses(random.nextInt(6)); break;
-            case 30: case 31: case 32: case 33: case 34: case 35: deeds(random.nextInt(8)); break;
+            case 30: case 31: case 32: case 33: case 34: case 35: case 44: case 45: deeds(random.nextInt(10)); break;
             case 36: case 37: case 38: steps(); break;
             case 39: case 40: case 41: case 42: case 43: acts(random.nextInt(6)); break;
             default: shelves(random.nextInt(14)); break;
@@ -253,7 +272,7 @@ public final class RandomTests {
         int one = one();
         int flat = flat();
         switch (which) {
-            case 0: case 1: same("hour()", real.hour(), plain.hour()); break;
+            case 0: case 1: case 8: case 9: hour(); break;
             case 2: same("moves(" + one + ", " + flat + ")", real.moves(one, flat), plain.moves(one, flat)); break;
             case 3: same("awning(" + flat + ")", real.awning(flat), plain.awning(flat)); break;
             case 4: same("wipe(" + one + ")", real.wipe(one), plain.wipe(one)); break;
@@ -265,6 +284,13 @@ public final class RandomTests {
             case 6: same("image()", real.image(), plain.image()); break;
             default: same("back()", real.back(), plain.back()); break;
         }
+    }
+
+    private void hour() {
+        same("hour()", real.hour(), plain.hour());
+        int pm = pm();
+        same("of(" + pm + ", 3)", real.of(pm, 3), plain.of(pm, 3));
+        same("led(3)", real.led(3), plain.led(3));
     }
 
     private void steps() {
