@@ -181,6 +181,9 @@ public final class PromiseTests {
         is("of(2, 1)", x.of(2, 1), 7);
         shorts(x, 0, 1, 1, 24, 1, 2, 2);
         is("one FLAT is not as it may be", x.people(0, 0, 3), 1);
+        shorts(x, 0, 0, 3, 9);
+        is("the last two elements", x.people(0, 1, 6), 1);
+        is("of(4, 0)", x.of(4, 0) * 10 + x.of(4, 1), 39);
         shorts(x, 0, 1, 4096);
         is("an OUT too great", x.people(0, 0, 1), 0);
         shorts(x, 0, 1, -1);
@@ -188,7 +191,7 @@ public final class PromiseTests {
         shorts(x, 0, -1, 1);
         is("a FLAT below 0", x.people(0, 0, 1), 0);
         shorts(x, 0, 1, 1, 2, 2, 3, 3);
-        is("FULL within", x.people(0, 0, 3), 2);
+        is("FULL within", x.people(0, 0, 3), 1);
         is("FULL", x.people(0, 0, 3), 0);
         is("count(0)", x.count(0), 6);
     }
@@ -554,6 +557,9 @@ public final class PromiseTests {
         is("MARK 2", x.most(0, 1, 1), 2);
         is("n 49", x.most(49, 0, 0), BAD);
         is("n -1", x.most(-1, 0, 0), BAD);
+        ThoughtsDrip y = two();
+        y.mend(3, 3, 1);
+        is("but 1, the last MARK", y.most(48, 0, 1), 3);
         is("no such one", x.most(0, 2, 0), BAD);
         is("one -1", x.most(0, -1, 0), BAD);
         is("what 2", x.most(0, 0, 2), BAD);
@@ -711,7 +717,14 @@ public final class PromiseTests {
         is("other -2", x.change(10, 0, -2), BAD);
         is("other 3", x.change(10, 0, 3), BAD);
         is("nobody has moved", x.of(0, 0) + x.of(1, 0) * 100 + x.of(2, 0) * 10000, 50307);
-        ThoughtsDrip y = new ThoughtsDrip();
+        ThoughtsDrip y = two();
+        y.mend(0, 5, 9);
+        is("past IRON 9, from FLOOR 7 to 3: 9 - 4 * 3", y.change(10, 1, -1), 0);
+        is("dry past IRON 9", y.dry(1, 0), 0);
+        y.mend(0, 5, 6);
+        is("past IRON 6: 9 - 4 * 2, for 12 hours", y.change(10, 1, -1), 12);
+        is("one AWNING past IRON 6", y.dry(1, 0), 1);
+        y = new ThoughtsDrip();
         for (int p = 0; p < 6; p++) {
             y.person(p, ALWAYS);
             y.mend(10 * p, 2, p + 1);
@@ -833,6 +846,9 @@ public final class PromiseTests {
         x.person(3, 0);
         is("three: 121 and 1 and 1", x.rent(0, 123), 121);
         is("three: 1 of 123", x.rent(2, 123), 1);
+        ThoughtsDrip alone = new ThoughtsDrip();
+        alone.person(3, ALWAYS);
+        is("alone", alone.rent(0, 777), 777);
         is("v 1000", x.rent(0, 1000), BAD);
         is("v -1", x.rent(0, -1), BAD);
         is("no such one", x.rent(3, 1), BAD);
@@ -882,6 +898,16 @@ public final class PromiseTests {
         is("0 drips on 2 then", y.swap(0), NOT);
         y.mend(1, 1, 0);
         is("0 with 2: as wet as one another", y.swap(1), NOT);
+        y = new ThoughtsDrip();
+        y.person(3, ALWAYS);
+        y.person(7, ALWAYS);
+        y.mend(13, 2, 1);
+        is("for MARK 3 alone", y.swap(0), 1);
+        y.mend(3, 2, 1);
+        is("1 would be WETTER of MARK 3", y.swap(0), NOT);
+        is("0 would be WETTER of MARK 3", y.swap(1), NOT);
+        y.mend(3, 2, 0);
+        is("both ways", y.swap(1), 0);
     }
 
     private void odds() {
@@ -967,6 +993,11 @@ public final class PromiseTests {
         is("9 in hour 2 is as good", x.byTurns(10, 3, 1), 0);
         is("in one hour it counts", x.byTurns(10, 1, 1), 1);
         x.mend(10, 3, 0);
+        x.mend(0, 2, 1);
+        x.mend(1, 2, 2);
+        is("MARK 1 is most thought", x.byTurns(10, 3, 0), 4);
+        x.mend(3, 2, 3);
+        is("MARK 3 is most thought", x.byTurns(10, 3, 0), 6);
         x.mend(2, 2, 9);
         x.mend(0, 2, 8);
         is("MARK 2 is most thought", x.byTurns(10, 3, 0), 18);
@@ -1039,6 +1070,39 @@ public final class PromiseTests {
         is("what -1", x.drawn(1, 101, -1), BAD);
         is("HOUR stays", x.of(0, 6), 0);
         is("WET stays", x.of(10, 3), 9998);
+        drawnAmongSix();
+    }
+
+    /** Each thinks 1 of each MARK, the last one sits on top: who is out gets as much as others are out above. */
+    private void drawnAmongSix() {
+        ThoughtsDrip x = new ThoughtsDrip();
+        for (int p = 0; p < 6; p++) {
+            x.person(8 + p, p);
+            for (int mark = 0; mark < 4; mark++) {
+                x.mend(10 * p + mark, 2, 1);
+            }
+        }
+        int z = -123456789;
+        int wetter = 0;
+        int porter = 0;
+        for (int hour = 0; hour < 30 * 24; hour++) {
+            int out = 0;
+            for (int p = 0; p < 6; p++) {
+                z = z * 1103515245 + 12345;
+                out += z >> 8 & 1;
+            }
+            porter += 4 * out;
+            wetter += 4 * (out * (out - 1) / 2);
+        }
+        is("six, 30 nights of 24 hours", x.drawn(-123456789, 3024, 0), wetter);
+        is("THE PORTER", x.drawn(-123456789, 3024, 1), porter);
+        int one = 0;
+        z = 5;
+        for (int p = 0; p < 6; p++) {
+            z = z * 1103515245 + 12345;
+            one += z >> 8 & 1;
+        }
+        is("a night of an hour", x.drawn(5, 101, 1), 4 * one);
     }
 
     private void hour() {
@@ -1116,6 +1180,10 @@ public final class PromiseTests {
         is("dry already", x.wipe(1), 0);
         is("the other one", x.wipe(0), 9999);
         is("wiped off", x.led(4), 10704);
+        ThoughtsDrip y = two();
+        y.mend(10, 3, 5);
+        is("0 is dry", y.wipe(0), 0);
+        is("1 stays WET", y.of(10, 3), 5);
         is("no such one", x.wipe(2), BAD);
         is("one -1", x.wipe(-1), BAD);
     }
@@ -1376,9 +1444,10 @@ public final class PromiseTests {
             is("60 elements", x.row(sort, sort, 60), 1);
             is("the last one", x.element(sort, 59), 0);
             is("no more", x.put(sort, 60, 0), PLACE);
+            x.put(sort, 0, 1);
             x.put(sort, 3, 1);
             is("another ROW", x.row(sort, sort, 4), 1);
-            is("0 at first", x.element(sort, 3), 0);
+            is("0 at first", x.element(sort, 3) + x.element(sort, 0), 0);
             is("of 0 elements", x.row(sort, sort, 0), 1);
             is("no place", x.put(sort, 0, 0), PLACE);
             is("61", x.row(sort, sort, 61), BAD);
@@ -1489,6 +1558,13 @@ public final class PromiseTests {
         is("other 6", x.shift(0, 0, 6, 0, 1), BAD);
         is("shelf -1", x.shift(-1, 0, 4, 0, 1), BAD);
         is("other -1", x.shift(4, 0, -1, 0, 1), BAD);
+        for (int sort = 0; sort < 5; sort++) {
+            x.row(4, sort, 2);
+            x.row(5, sort, 2);
+            x.put(4, 0, 1);
+            is("sort " + sort, x.shift(4, 0, 5, 1, 1), 1);
+            is("sort " + sort, x.element(5, 1), 1);
+        }
         is("all as before", digits(x, 0, 5) * 1000 + digits(x, 1, 3), 12344458);
     }
 
