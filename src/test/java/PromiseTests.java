@@ -1,12 +1,6 @@
 /** For each promise of the document: ordinary inputs, the edges it names, wrong inputs. Answers worked out by hand. */
-public final class PromiseTests {
-    private static final int BAD = -1, NOT = -2, FULL = -3, STATE = -5;
-    private static final int NONE = -11, KIND = -12, PLACE = -13, SIZE = -14;
-    private static final int ALWAYS = 4095;
+public final class PromiseTests extends Asking {
     private static final int[] NUMBERS_WRONG = {-1, Integer.MIN_VALUE, Integer.MAX_VALUE};
-
-    private final Due due = new Due();
-    private String about = "";
 
     public static void main(String[] args) {
         PromiseTests t = new PromiseTests();
@@ -56,35 +50,6 @@ public final class PromiseTests {
         t.count();
         t.nothingChanges();
         t.due.end("PromiseTests");
-    }
-
-    private void is(String call, long got, long want) {
-        due.is(about + ": " + call, got, want);
-    }
-
-    private static void feedAll(ThoughtsDrip x, String text) {
-        for (int k = 0; k < text.length(); k++) {
-            x.feed(text.charAt(k));
-        }
-    }
-
-    private static int tell(ThoughtsDrip x, String text) {
-        feedAll(x, text);
-        return x.law();
-    }
-
-    private static void basin(ThoughtsDrip x, int shelf, int... bytes) {
-        x.row(shelf, 0, bytes.length);
-        for (int k = 0; k < bytes.length; k++) {
-            x.put(shelf, k, bytes[k]);
-        }
-    }
-
-    private static void shorts(ThoughtsDrip x, int shelf, int... values) {
-        x.row(shelf, 1, values.length);
-        for (int k = 0; k < values.length; k++) {
-            x.put(shelf, k, values[k]);
-        }
     }
 
     /** 0 on top of stack 0 thinking 9 of MARK 0, 1 beneath at FLOOR 3 thinking 2 of MARK 0 and 4 of MARK 1, both always out. */
