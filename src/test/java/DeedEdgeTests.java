@@ -18,6 +18,7 @@ public final class DeedEdgeTests extends Asking {
         t.undoneToWhatItWas();
         t.imageNone();
         t.imageKeeps();
+        t.imageKeepsLed();
         t.imageKeepsNot();
         t.imageOfNobody();
         t.imageAgain();
@@ -402,6 +403,40 @@ public final class DeedEdgeTests extends Asking {
         for (int what = 0; what < 5; what++) {
             is("LED " + what, x.led(what), led[what]);
         }
+    }
+
+    private void imageKeepsLed() {
+        about = "AN IMAGE keeps what LED tells, each number of it";
+        ThoughtsDrip x = two();
+        x.mend(13, 3, 77);
+        for (int k = 0; k < 3; k++) {
+            x.hour();
+        }
+        x.wipe(0);
+        x.moves(1, 1);
+        x.moves(1, 0);
+        for (int k = 0; k < 4; k++) {
+            x.awning(20);
+        }
+        // 1 is WET by what 0 thinks, and by the 77 that were told.
+        is("27 and 77", x.wipe(1), 104);
+        int[] then = {3, 2, 4, 27, 104};
+        x.image();
+        x.hour();
+        x.moves(0, 0);
+        x.awning(20);
+        x.mend(0, 3, 5);
+        x.wipe(0);
+        int[] now = {4, 3, 5, 36, 109};
+        for (int what = 0; what < 5; what++) {
+            is("LED " + what + " ahead of it", x.led(what), now[what]);
+        }
+        is("3 hours", x.back(), 3);
+        for (int what = 0; what < 5; what++) {
+            is("LED " + what, x.led(what), then[what]);
+        }
+        x.hour();
+        is("and on from there", x.led(0), 4);
     }
 
     private void imageKeepsNot() {

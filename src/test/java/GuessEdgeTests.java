@@ -16,6 +16,7 @@ public final class GuessEdgeTests extends Asking {
         t.rentShares();
         t.rentCut();
         t.rentOfWhatComes();
+        t.rentOfEachFlat();
         t.swapWho();
         t.swapNot();
         t.swapOfSix();
@@ -23,12 +24,14 @@ public final class GuessEdgeTests extends Asking {
         t.oddsOfSix();
         t.oddsLowest();
         t.meanFractions();
+        t.oddsOfEachFlat();
         t.turnsWho();
         t.turnsMark();
         t.turnsOthersByOut();
         t.turnsBestOfBoth();
         t.turnsWettest();
         t.drawnEachNight();
+        t.drawnEachOne();
         t.drawnOut();
         t.drawnBounds();
         t.due.end("GuessEdgeTests");
@@ -288,6 +291,26 @@ public final class GuessEdgeTests extends Asking {
         is("1 of 438, not all", y.rent(4, 437), 0);
     }
 
+    /** 0 in a FLAT, 1 on top of its STACK thinking 9 of a MARK at every HOUR. */
+    private static ThoughtsDrip beneath(int flat, int mark) {
+        ThoughtsDrip x = new ThoughtsDrip();
+        x.person(flat, ALWAYS);
+        x.person(flat / 8 * 8 + 7, ALWAYS);
+        x.mend(10 + mark, 2, 9);
+        return x;
+    }
+
+    private void rentOfEachFlat() {
+        about = "RENT: all that COMES there, to each FLAT";
+        for (int flat = 0; flat < 24; flat++) {
+            // 1 by (1 and 12 times 9) beside 1 by 1; both 1 by 1, if he is on top, too.
+            boolean top = flat % 8 == 7;
+            ThoughtsDrip x = beneath(flat, flat % 4);
+            is("in FLAT " + flat, x.rent(0, 110), top ? 55 : 1);
+            is("above FLAT " + flat, x.rent(1, 110), top ? 55 : 109);
+        }
+    }
+
     private void swapWho() {
         about = "SWAP: who (the least) of others";
         ThoughtsDrip x = two();
@@ -438,6 +461,17 @@ public final class GuessEdgeTests extends Asking {
         fraction("1 in one of 32", x, 52, true, 1, 32);
         tell(x, "0");
         fraction("none", x, 52, true, 0, 1);
+    }
+
+    private void oddsOfEachFlat() {
+        about = "ODDS, MEAN: what COMES to him, in each FLAT";
+        for (int flat = 0; flat < 24; flat++) {
+            boolean top = flat % 8 == 7;
+            ThoughtsDrip x = beneath(flat, flat % 4);
+            fraction("ODDS in FLAT " + flat, x, flat % 4, false, top ? 0 : 1, top ? 1 : 2);
+            fraction("MEAN in FLAT " + flat, x, flat % 4, true, top ? 0 : 9, top ? 1 : 2);
+            fraction("above FLAT " + flat, x, 10 + flat % 4, false, 0, 1);
+        }
     }
 
     private void turnsWho() {
@@ -593,6 +627,31 @@ public final class GuessEdgeTests extends Asking {
         x.mend(0, 1, 0);
         is("HOUR, OUT: whatever they are", x.drawn(5, 324, 1), 9 * zero);
         is("WET stays", x.of(10, 3), 9999);
+    }
+
+    private void drawnEachOne() {
+        about = "DRAWN: how much all are WETTER at the ends, all MARKS: each of six, each MARK";
+        for (int who = 1; who < 6; who++) {
+            for (int mark = 0; mark < 4; mark++) {
+                ThoughtsDrip x = new ThoughtsDrip();
+                for (int p = 0; p < 6; p++) {
+                    x.person(p == 0 ? 23 : p == who ? 16 : 0, 0);
+                }
+                x.mend(mark, 2, 9);
+                int z = 11;
+                int both = 0;
+                for (int hour = 0; hour < 90; hour++) {
+                    int set = 0;
+                    for (int p = 0; p < 6; p++) {
+                        z = z * 1103515245 + 12345;
+                        set |= (z >>> 8) % 2 << p;
+                    }
+                    both += (set & 1) != 0 && (set >> who & 1) != 0 ? 1 : 0;
+                }
+                is(who + " of MARK " + mark + ", 30 nights of 3 hours", x.drawn(11, 3003, 0), 9 * both);
+                is(who + " of MARK " + mark + ", 10 nights of 9 hours", x.drawn(11, 1009, 0), 9 * both);
+            }
+        }
     }
 
     private void drawnOut() {

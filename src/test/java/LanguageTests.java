@@ -7,8 +7,10 @@ import java.nio.file.Files;
 import java.nio.file.Path;
 import java.util.ArrayList;
 import java.util.Arrays;
+import java.util.HashMap;
 import java.util.HashSet;
 import java.util.List;
+import java.util.Map;
 import java.util.Set;
 import java.util.TreeSet;
 import java.util.regex.Matcher;
@@ -39,6 +41,7 @@ public final class LanguageTests {
         String source = Files.readString(Path.of("src/main/java/ThoughtsDrip.java"), StandardCharsets.UTF_8);
         t.text(source);
         t.methods(bare(source));
+        t.depth(bare(source));
         t.face();
         t.members(ThoughtsDrip.class);
         t.due.end("LanguageTests");
@@ -105,6 +108,47 @@ public final class LanguageTests {
             due.holds(m.group(2) + " takes " + parameters, parameters <= 7);
         }
         due.holds("methods seen: " + seen, seen > 100);
+    }
+
+    /** By names alone: methods of like names count as one, and a name comes once in a chain (recursion). */
+    private void depth(String s) {
+        Map<String, String> bodies = new HashMap<>();
+        Matcher m = Pattern.compile("(?m)^( {4}| {8})(?:\\w+ )*(?:\\w+(?:\\[\\])? )(\\w+)\\([^)]*\\) \\{\n").matcher(s);
+        while (m.find()) {
+            String body = s.substring(m.end(), s.indexOf("\n" + m.group(1) + "}", m.end() - 1));
+            bodies.merge(m.group(2), body, String::concat);
+        }
+        Map<String, Set<String>> calls = new HashMap<>();
+        for (String name : bodies.keySet()) {
+            calls.put(name, new TreeSet<>());
+            Matcher call = Pattern.compile("\\b(\\w+)\\(").matcher(bodies.get(name));
+            while (call.find()) {
+                if (bodies.containsKey(call.group(1))) {
+                    calls.get(name).add(call.group(1));
+                }
+            }
+        }
+        int deepest = 0;
+        for (Method face : ThoughtsDrip.class.getDeclaredMethods()) {
+            if (Modifier.isPublic(face.getModifiers())) {
+                int deep = deepFrom(face.getName(), calls, new HashSet<>());
+                deepest = Math.max(deepest, deep);
+                due.holds(face.getName() + " goes " + deep + " deep", deep <= 8);
+            }
+        }
+        due.holds("chains seen: " + deepest, deepest > 5);
+    }
+
+    private static int deepFrom(String name, Map<String, Set<String>> calls, Set<String> open) {
+        if (!calls.containsKey(name) || !open.add(name)) {
+            return 0;
+        }
+        int deepest = 0;
+        for (String next : calls.get(name)) {
+            deepest = Math.max(deepest, deepFrom(next, calls, open));
+        }
+        open.remove(name);
+        return deepest + 1;
     }
 
     private static String shape(Method m) {
